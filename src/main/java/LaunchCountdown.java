@@ -274,10 +274,10 @@ public final class LaunchCountdown {
         if (!buffer.isScript()) {
             throw new IllegalStateException("the buffer is not a complete script");
         }
-        int commands = buffer.commands();
         int at = 0;
         int done = 0;
-        while (done < commands && carriedOut(at)) {
+        // Behind the last command no character stands, which is no command.
+        while (done < MOST_CHARACTERS && carriedOut(at)) {
             at = buffer.nextCommand(at);
             done++;
         }
@@ -1230,16 +1230,6 @@ public final class LaunchCountdown {
 
         boolean isScript() {
             return next == END || next == MORE_NUMBER;
-        }
-
-        int commands() {
-            int commands = 1;
-            for (int i = 0; i < length; i++) {
-                if (codes[i] == ';') {
-                    commands++;
-                }
-            }
-            return commands;
         }
 
         /** The index behind the next ";". */

@@ -233,6 +233,19 @@ public final class CommandsTest {
             restore(1) = 3; status(9) = 0; status(10) = 0; expected(0) = 5; expected(1) = -1; liftoff() = 11
             advance(1) = 2; advance(2) = 1; status(9) = 1
             """);
+        Runs.check("Promise 15: states that have nothing in common", """
+            begin(9) = 60; addHold(9, 4) = 0; addHold(8, 5) = 1; save(0) = 0; addSpan(10, 20, false) = 0
+            addSpan(12, 13, true) = 0; advance(2) = 0; command(0) = 1; advance(6) = 2; save(1) = 8; restore(0) = 0
+            addSpan(30, 40, false) = 0; addSpan(35, 36, true) = 0; advance(30) = 0; command(0) = 1; command(1) = 3
+            advance(3) = 3; command(3) = 4; restore(1) = 8; isOpen(10) = true; isOpen(12) = false; isOpen(20) = true
+            isOpen(21) = false; isOpen(30) = false; isOpen(14) = true; status(7) = 3; log(0, 0) = 7; log(0, 1) = 1
+            log(0, 2) = 1; log(1, 0) = 5; log(1, 1) = 2; log(1, 2) = 0; log(2, 0) = 2; log(2, 1) = 1; log(2, 2) = 0
+            advance(4) = 1; log(0, 1) = 2; log(0, 2) = 1; command(1) = 3; advance(10) = 3; holdShare() = 0.5
+            """);
+        Runs.check("Promise 15: the hold that a restore brings back ends with its own number", """
+            begin(9) = 60; addHold(9, 4) = 0; addHold(8, 1) = 1; command(0) = 1; advance(1) = 2; save(0) = 1; advance(6) = 1
+            log(0, 2) = 1; restore(0) = 1; advance(3) = 1; log(0, 1) = 2; log(0, 2) = 0
+            """);
         Runs.check("Promise 15: the state stays saved as it was", """
             command(0) = 1; advance(5) = 1; save(2) = 5; restore(2) = 5; advance(5) = 1; command(1) = 3; command(3) = 4
             restore(2) = 5; status(0) = 1; status(2) = 55; status(7) = 0

@@ -47,6 +47,10 @@ public final class PlansTest {
             command(1) = 3; recycle(0) = 60; recycle(0) = 60; recycle(0) = 60; status(4) = 3
             recycle(0) = throws IllegalStateException
             """);
+        Runs.check("Promise 2: in the midst of a pass", """
+            begin(5) = 60; addEvent(5, -1) = 0; addHold(5, 2) = 0; addHold(4, 9) = 1; command(0) = 1; advance(5) = 2
+            status(9) = 1; status(10) = 2; begin(5) = 5; status(9) = 0; status(10) = 0; status(11) = 0
+            """);
         Runs.check("Promise 2: also behind liftoff and scrub", """
             begin(1) = 60; addSpan(0, 9, false) = 0; command(0) = 1; advance(2) = 5; begin(2) = 1; status(0) = 0
             liftoff() = 2; command(3) = 4; begin(3) = 2; status(0) = 0; liftoff() = 3

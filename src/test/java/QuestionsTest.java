@@ -135,6 +135,10 @@ public final class QuestionsTest {
             addSpan(100, 101, false) = 2; slack(true) = 91; slack(false) = 6; addSpan(16, 24, true) = 4
             slack(false) = 90; slack(true) = 91; addSpan(0, 99999, true) = 5; slack(false) = -1; slack(true) = -1
             """);
+        Runs.check("Promise 25: a cutout at the end of the window", """
+            addSpan(40, 90, false) = 0; addSpan(80, 95, true) = 0; slack(true) = 19; slack(false) = 0
+            addSpan(0, 5, true) = 1; slack(true) = 19; addSpan(60, 60, true) = 2; slack(false) = 1; slack(true) = 19
+            """);
         Runs.check("Promise 25: the last second", """
             addSpan(99999, 99999, false) = 0; slack(false) = 99939; slack(true) = 99939; advance(60) = 0; slack(true) = 99879
             """);
@@ -180,6 +184,9 @@ public final class QuestionsTest {
             advance(10) = 3; ifRecycled(0) = 59; ifRecycled(1) = 51; ifRecycled(2) = -1; command(2) = 1; advance(1) = 1
             ifRecycled(2) = 46; setLimits(100, 9) = 100; command(1) = 3; recycle(2) = 14; liftoff() = 46
             ifRecycled(2) = 46; command(3) = 4; ifRecycled(0) = -1
+            """);
+        Runs.check("Promise 27: holds at the count 0 and at the point's count", """
+            begin(9) = 60; addPoint(9) = 0; addHold(0, 3) = 0; addHold(9, 4) = 1; command(0) = 1; ifRecycled(0) = 16
             """);
         Runs.check("Promise 27: behind liftoff", """
             begin(1) = 60; addPoint(1) = 0; addSpan(0, 9, false) = 0; command(0) = 1; advance(2) = 5; ifRecycled(0) = -1
@@ -288,7 +295,7 @@ public final class QuestionsTest {
             advance(5) = 0; command(3) = 4; advance(5) = 4; holdShare() = 0.0
             """);
         Runs.check("Promise 31: a hold of all seconds", """
-            command(0) = 1; command(1) = 3; holdShare() = 0.0; advance(7) = 3; holdShare() = 1.0; command(2) = 1; advance(7) = 1
+            command(0) = 1; command(1) = 3; holdShare() = 0.0; advance(1) = 3; holdShare() = 1.0; advance(6) = 3; holdShare() = 1.0; command(2) = 1; advance(7) = 1
             holdShare() = 0.5
             """);
     }
