@@ -24,6 +24,7 @@ public final class LaunchCountdown {
     private static final int MOST_RECYCLES = 9;
 
     private static final int VOTERS = 5;
+    private static final int NOT_VOTED = 0;
     private static final int GO = 1;
     private static final int NO_GO = 2;
 
@@ -207,7 +208,7 @@ public final class LaunchCountdown {
         if (seconds < 1 || seconds > MOST_SECONDS) {
             throw new IllegalArgumentException("seconds is not 1 to 600");
         }
-        if (!advanced(seconds)) {
+        if (!now.advanced(seconds)) {
             throw new IllegalStateException("the clock would show more than 99999");
         }
         return now.phase;
@@ -349,7 +350,8 @@ public final class LaunchCountdown {
         int best = NONE;
         int bestSecond = NONE;
         for (int point = 0; point < plan.points; point++) {
-            int second = now.recycledOpening(point);
+            int from = now.recycledLiftoff(point);
+            int second = from == NONE ? NONE : now.firstOpen(from);
             if (second != NONE && (best == NONE || isBetter(point, second, best, bestSecond))) {
                 best = point;
                 bestSecond = second;
@@ -362,11 +364,10 @@ public final class LaunchCountdown {
         if (seconds < 1 || seconds > MOST_SECONDS || !isStatus(what)) {
             throw new IllegalArgumentException("an argument is out of range");
         }
-        if (!now.hasRoomFor(seconds)) {
+        trial.copyFrom(now);
+        if (!trial.advanced(seconds)) {
             throw new IllegalStateException("the clock would show more than 99999");
         }
-        trial.copyFrom(now);
-        trial.passSeconds(seconds);
         return trial.number(what);
     }
 
@@ -422,14 +423,6 @@ public final class LaunchCountdown {
         return true;
     }
 
-    private boolean advanced(int seconds) {
-        if (!now.hasRoomFor(seconds)) {
-            return false;
-        }
-        now.passSeconds(seconds);
-        return true;
-    }
-
     private boolean voted(int constraint, int voter, int vote) {
         if (!plan.hasConstraint(constraint) || !isVoter(voter) || !isVote(vote)) {
             return false;
@@ -452,7 +445,7 @@ public final class LaunchCountdown {
             case 'c':
                 return recycled(buffer.digitAt(at + 1));
             case '+':
-                return advanced(buffer.numberAt(at + 1));
+                return now.advanced(buffer.numberAt(at + 1));
             case 'v':
                 return voted(buffer.digitAt(at + 1), buffer.digitAt(at + 2), buffer.digitAt(at + 3));
             default:
@@ -513,7 +506,7 @@ public final class LaunchCountdown {
     }
 
     private static boolean isVote(int vote) {
-        return vote >= 0 && vote <= NO_GO;
+        return vote >= NOT_VOTED && vote <= NO_GO;
     }
 
     private static boolean isSlot(int slot) {
@@ -526,6 +519,11 @@ public final class LaunchCountdown {
 
     private static boolean hasBit(int bits, int number) {
         return (bits >> number & 1) != 0;
+    }
+
+    private static int withBit(int bits, int number, boolean set) {
+        int bit = 1 << number;
+        return set ? bits | bit : bits & ~bit;
     }
 
     /** The length and the items that a restore leaves as they are. */
@@ -654,34 +652,32 @@ public final class LaunchCountdown {
         }
     }
 
+    /** For each constraint a bit for each voter who has voted go, and for each who has voted no-go. */
     private static final class Votes {
-        final int[] votes = new int[MOST_CONSTRAINTS * VOTERS];
+        final int[] go = new int[MOST_CONSTRAINTS];
+        final int[] noGo = new int[MOST_CONSTRAINTS];
 
         /** Also what no constraint uses yet is 0, so that a restore gives later constraints no votes. */
         void clear() {
-            Arrays.fill(votes, 0);
+            Arrays.fill(go, 0);
+            Arrays.fill(noGo, 0);
         }
 
         void copyFrom(Votes other) {
-            System.arraycopy(other.votes, 0, votes, 0, votes.length);
+            System.arraycopy(other.go, 0, go, 0, MOST_CONSTRAINTS);
+            System.arraycopy(other.noGo, 0, noGo, 0, MOST_CONSTRAINTS);
         }
 
         int of(int constraint, int voter) {
-            return votes[constraint * VOTERS + voter];
+            if (hasBit(go[constraint], voter)) {
+                return GO;
+            }
+            return hasBit(noGo[constraint], voter) ? NO_GO : NOT_VOTED;
         }
 
         void put(int constraint, int voter, int vote) {
-            votes[constraint * VOTERS + voter] = vote;
-        }
-
-        int number(int constraint, int vote) {
-            int number = 0;
-            for (int voter = 0; voter < VOTERS; voter++) {
-                if (of(constraint, voter) == vote) {
-                    number++;
-                }
-            }
-            return number;
+            go[constraint] = withBit(go[constraint], voter, vote == GO);
+            noGo[constraint] = withBit(noGo[constraint], voter, vote == NO_GO);
         }
     }
 
@@ -712,7 +708,9 @@ public final class LaunchCountdown {
             kinds[next] = kind;
             values[next] = value;
             next = next + 1 < MOST_ENTRIES ? next + 1 : 0;
-            kept = Math.min(kept + 1, MOST_ENTRIES);
+            if (kept < MOST_ENTRIES) {
+                kept++;
+            }
         }
 
         int part(int entry, int what) {
@@ -838,27 +836,28 @@ public final class LaunchCountdown {
             return seconds <= LAST_SECOND - clock;
         }
 
-        void passSeconds(int seconds) {
+        /** Lets seconds pass, if the clock can show them. */
+        boolean advanced(int seconds) {
+            if (!hasRoomFor(seconds)) {
+                return false;
+            }
             for (int i = 0; i < seconds; i++) {
                 passSecond();
             }
+            return true;
         }
 
         /** Tells whether an event fired in the second. */
         boolean passSecond() {
             int firedBefore = pass.fired;
-            switch (phase) {
-                case RUNNING:
-                    countDown();
-                    break;
-                case BUILT_IN_HOLD:
-                    spendHold();
-                    break;
-                case UNPLANNED_HOLD:
-                    spendBudget();
-                    break;
-                default:
-                    break;
+            if (phase == RUNNING) {
+                countDown();
+            } else if (phase == UNPLANNED_HOLD) {
+                spendBudget();
+            }
+            // The second in which a built-in hold begins is its first one.
+            if (phase == BUILT_IN_HOLD) {
+                spendHold();
             }
             clock++;
             return pass.fired != firedBefore;
@@ -891,8 +890,6 @@ public final class LaunchCountdown {
             holdLeft = plan.holdDurations[due];
             pass.begun |= 1 << due;
             log.put(clock, LOG_HOLD_BEGAN, due);
-            // The second in which a hold begins is its first one.
-            spendHold();
         }
 
         private void spendHold() {
@@ -993,9 +990,9 @@ public final class LaunchCountdown {
 
         // ---- constraints
 
-        boolean isGo(int constraint) {
-            int go = votes.number(constraint, GO);
-            return go >= plan.quorums[constraint] && go > votes.number(constraint, NO_GO);
+        private boolean isGo(int constraint) {
+            int go = Integer.bitCount(votes.go[constraint]);
+            return go >= plan.quorums[constraint] && go > Integer.bitCount(votes.noGo[constraint]);
         }
 
         /** The lowest constraint that is active now and not go, or NONE. */
@@ -1015,9 +1012,9 @@ public final class LaunchCountdown {
                 case 1:
                     return plan.isActive(constraint, count) ? 1 : 0;
                 case 2:
-                    return votes.number(constraint, GO);
+                    return Integer.bitCount(votes.go[constraint]);
                 default:
-                    return votes.number(constraint, NO_GO);
+                    return Integer.bitCount(votes.noGo[constraint]);
             }
         }
 
@@ -1083,12 +1080,6 @@ public final class LaunchCountdown {
                 return NONE;
             }
             return clock + target + plan.holdTime(target, 0, 0);
-        }
-
-        /** The first open second that a recycle to a point leaves, or NONE. */
-        int recycledOpening(int point) {
-            int from = recycledLiftoff(point);
-            return from == NONE ? NONE : firstOpen(from);
         }
 
         boolean opensAt(int second) {

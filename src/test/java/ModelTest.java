@@ -7,15 +7,16 @@ public final class ModelTest {
     private static final int CALLS = 512;
     private static final int[] WILD = {Integer.MIN_VALUE, -2, -1, 0, 1, 5, 12, 600, 601, 3601, 10000, 99999, 100000,
         Integer.MAX_VALUE};
+    private static final int[] OFTEN_RESUME = {0, 1, 2, 2, 2, 2};
     private static final String[] PLANS = {"addEvent", "addEvent", "addHold", "addPoint", "addConstraint", "addSpan",
         "setLimits", "save"};
     private static final String[] COMMANDS = {"command", "command", "command", "recycle", "advance", "advance", "run",
-        "run", "vote", "vote", "vote", "save", "restore", "addSpan", "setLimits", "text", "text", "script"};
+        "run", "vote", "vote", "vote", "save", "restore", "addSpan", "setLimits", "text"};
     private static final String[] QUESTIONS = {"append", "clearBuffer", "firstError", "status", "items", "constraint",
         "expected", "liftoff", "slack", "isOpen", "ifRecycled", "bestPoint", "ifAdvanced", "ifAdvanced", "log",
         "holdShare", "addEvent", "addHold", "addPoint", "addConstraint"};
-    private static final String[] SCRIPTS = {"s", "h", "r", "x", "c0", "c1", "c9", "+1", "+9", "+31", "+600", "+601",
-        "v001", "v011", "v021", "v101", "v111", "v002", "v053", "v", "+", "c", "+0", ";", "7", "rr"};
+    private static final String[] SCRIPTS = {"s", "h", "r", "c0", "r", "c1", "+1", "+2", "+3", "+12", "v001", "v011",
+        "v021", "v101", "v111", "v211", "v002", "x", "+600", "c9", "v053", "+601", "v", "+", "c", "+0", ";", "7", "rr"};
 
     private final Random random;
     private final LaunchCountdown program = new LaunchCountdown();
@@ -35,15 +36,16 @@ public final class ModelTest {
     }
 
     private void go() {
-        // Some runs go near the end of the clock, where calls are refused.
-        if (random.nextInt(10) == 0) {
-            for (int i = 0; i < 160; i++) {
-                same("advance", 600);
-            }
-        }
-        same("begin", length = 1 + random.nextInt(random.nextInt(8) == 0 ? 900 : 30));
-        int plans = random.nextInt(30);
+        int plans = 0;
         for (int i = 0; i < CALLS; i++) {
+            boolean ended = program.status(0) > 3 && random.nextInt(8) == 0;
+            if (i == 0 || ended || random.nextInt(150) == 0) {
+                plans = i + 5 + random.nextInt(25);
+                beginAnew();
+            }
+            if (i == plans) {
+                same("command", 0);
+            }
             boolean right = i < plans
                     ? call(pick(PLANS))
                     : random.nextInt(3) == 0 ? call(pick(QUESTIONS)) : call(pick(COMMANDS));
@@ -51,38 +53,45 @@ public final class ModelTest {
                 System.out.println("the run: " + past);
                 return;
             }
-            if (random.nextInt(90) == 0) {
-                same("begin", length = 1 + random.nextInt(20));
-                plans = i + random.nextInt(25);
-            }
+        }
+    }
+
+    private void beginAnew() {
+        length = 1 + random.nextInt(random.nextInt(8) == 0 ? 900 : 30);
+        sameCall("begin", length);
+        // Some countdowns begin near the end of the clock, where calls are refused.
+        int far = random.nextInt(40) == 0 ? 166 : 0;
+        for (int i = 0; i < far; i++) {
+            sameCall("advance", 600);
         }
     }
 
     private boolean call(String name) {
         switch (name) {
             case "addEvent":
-                return same(name, count(), random.nextInt(3) - 1);
+                return same(name, count(), random.nextInt(1 + program.items(3)) - 1);
             case "addHold":
                 return same(name, count(), 1 + random.nextInt(6));
             case "addPoint":
                 return same(name, count());
             case "addConstraint":
                 int from = count();
-                return same(name, from, random.nextInt(from + 2), 1 + random.nextInt(2));
+                return same(name, from, from - random.nextInt(5), 1 + random.nextInt(2));
             case "addSpan":
                 int first = random.nextInt(random.nextInt(9) == 0 ? 2000 : 150);
-                int width = random.nextInt(random.nextInt(4) == 0 ? 2000 : 20);
-                return same(name, first, Math.min(first + width, 99999), random.nextBoolean());
+                int width = random.nextInt(20);
+                boolean cutout = random.nextBoolean();
+                return same(name, first, first + (cutout ? width : width * width), cutout);
             case "setLimits":
-                return same(name, random.nextInt(3) == 0 ? random.nextInt(12) : 40 + random.nextInt(900), random.nextInt(10));
+                return same(name, random.nextInt(6) == 0 ? random.nextInt(12) : 40 + random.nextInt(900), random.nextInt(10));
             case "vote":
-                return same(name, random.nextInt(4), random.nextInt(5), 2 - (random.nextInt(8) + 3) / 4);
+                return same(name, random.nextInt(1 + program.items(3)), random.nextInt(5), random.nextInt(3) == 0 ? random.nextInt(3) : 1);
             case "command":
-                return same(name, random.nextInt(12) == 0 ? 3 : random.nextInt(3));
+                return same(name, random.nextInt(40) == 0 ? 3 : OFTEN_RESUME[random.nextInt(OFTEN_RESUME.length)]);
             case "recycle", "ifRecycled":
-                return same(name, random.nextInt(3));
+                return same(name, random.nextInt(1 + program.items(2)));
             case "advance":
-                return same(name, 1 + random.nextInt(random.nextInt(12) == 0 ? 600 : 12));
+                return same(name, 1 + random.nextInt(random.nextInt(30) == 0 ? 600 : 8));
             case "save", "restore":
                 return same(name, random.nextInt(3));
             case "text":
@@ -94,9 +103,9 @@ public final class ModelTest {
             case "items":
                 return same(name, random.nextInt(6));
             case "constraint":
-                return same(name, random.nextInt(6), random.nextInt(4));
+                return same(name, random.nextInt(1 + program.items(3)), random.nextInt(4));
             case "expected":
-                return same(name, random.nextInt(12));
+                return same(name, random.nextInt(1 + program.items(0)));
             case "slack":
                 return same(name, random.nextBoolean());
             case "isOpen":
@@ -104,7 +113,7 @@ public final class ModelTest {
             case "ifAdvanced":
                 return same(name, 1 + random.nextInt(random.nextInt(5) == 0 ? 600 : 30), random.nextInt(12));
             case "log":
-                return same(name, random.nextInt(24), random.nextInt(3));
+                return same(name, random.nextInt(1 + program.status(7)), random.nextInt(3));
             default:
                 return same(name);
         }
@@ -119,17 +128,17 @@ public final class ModelTest {
     }
 
     private boolean text() {
-        boolean right = random.nextInt(3) == 0 || same("clearBuffer");
+        boolean right = random.nextInt(9) == 0 || same("clearBuffer");
         int commands = 1 + random.nextInt(7);
         StringBuilder script = new StringBuilder();
         for (int i = 0; i < commands; i++) {
-            int likely = random.nextInt(4) == 0 ? SCRIPTS.length : 18;
+            int likely = random.nextInt(15) == 0 ? SCRIPTS.length : 17;
             script.append(i == 0 ? "" : ";").append(SCRIPTS[random.nextInt(likely)]);
         }
         for (char code : script.toString().toCharArray()) {
             right = right && sameCall("append", (int) code);
         }
-        right = right && same("firstError");
+        right = right && sameCall("firstError");
         return right && (random.nextInt(4) == 0 || same("script"));
     }
 
