@@ -47,6 +47,10 @@ public final class PlansTest {
             command(1) = 3; recycle(0) = 60; recycle(0) = 60; recycle(0) = 60; status(4) = 3
             recycle(0) = throws IllegalStateException
             """);
+        Runs.check("Promise 2: no vote is left", """
+            addConstraint(9, 9, 1) = 0; vote(0, 0, 1) = 0; vote(0, 1, 2) = 0; begin(60) = 60; addConstraint(9, 9, 1) = 0
+            constraint(0, 2) = 0; constraint(0, 3) = 0; vote(0, 1, 1) = 0; vote(0, 0, 1) = 0
+            """);
         Runs.check("Promise 2: in the midst of a pass", """
             begin(5) = 60; addEvent(5, -1) = 0; addHold(5, 2) = 0; addHold(4, 9) = 1; command(0) = 1; advance(5) = 2
             status(9) = 1; status(10) = 2; begin(5) = 5; status(9) = 0; status(10) = 0; status(11) = 0
