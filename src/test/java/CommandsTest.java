@@ -172,7 +172,7 @@ public final class CommandsTest {
         Runs.due("Promise 13: the clock", x.status(1), 99399);
         Runs.due("Promise 13: just so", x.run(), 600);
         Runs.due("Promise 13: the last second", x.status(1), 99999);
-        Runs.due("Promise 13: no room", Runs.answer(x, "run", new Object[0]), "throws IllegalStateException");
+        Runs.due("Promise 13: no room", Runs.answer(x, "run"), "throws IllegalStateException");
         LaunchCountdown y = new LaunchCountdown();
         for (int i = 0; i < 165; i++) {
             y.advance(600);
@@ -180,7 +180,7 @@ public final class CommandsTest {
         y.advance(400);
         y.command(0);
         y.command(1);
-        Runs.due("Promise 13: one too many", Runs.answer(y, "run", new Object[0]), "throws IllegalStateException");
+        Runs.due("Promise 13: one too many", Runs.answer(y, "run"), "throws IllegalStateException");
         Runs.due("Promise 13: the clock stays", y.status(1), 99400);
     }
 

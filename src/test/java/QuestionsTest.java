@@ -250,8 +250,8 @@ public final class QuestionsTest {
             x.advance(600);
         }
         Runs.due("Promise 29: the last second", x.ifAdvanced(399, 1), 99999);
-        Runs.due("Promise 29: behind it", Runs.answer(x, "ifAdvanced", new Object[] {400, 1}), "throws IllegalStateException");
-        Runs.due("Promise 29: the argument first", Runs.answer(x, "ifAdvanced", new Object[] {400, 12}),
+        Runs.due("Promise 29: behind it", Runs.answer(x, "ifAdvanced", 400, 1), "throws IllegalStateException");
+        Runs.due("Promise 29: the argument first", Runs.answer(x, "ifAdvanced", 400, 12),
                 "throws IllegalArgumentException");
     }
 
@@ -282,7 +282,7 @@ public final class QuestionsTest {
             Runs.due("Promise 30: the second of " + entry, x.log(entry, 0), 20 - entry / 2);
             Runs.due("Promise 30: the kind of " + entry, x.log(entry, 1), entry % 2 == 0 ? 4 : 3);
         }
-        Runs.due("Promise 30: entry 24", Runs.answer(x, "log", new Object[] {24, 0}), "throws IndexOutOfBoundsException");
+        Runs.due("Promise 30: entry 24", Runs.answer(x, "log", 24, 0), "throws IndexOutOfBoundsException");
     }
 
     private static void holdShare() {

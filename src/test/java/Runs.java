@@ -3,8 +3,10 @@ import java.lang.reflect.Method;
 
 /**
  * Carries out runs of calls that are written as the document writes its examples, each on a new object:
- * "begin(10) = 60; command(2) = throws IllegalStateException". A line "text s;+2" appends these characters.
- * A call that throws must leave the digest as it was.
+ * "begin(10) = 60; command(2) = throws IllegalStateException". "166 * advance(600) = 0" is a call that is made 166
+ * times. A line "text s;+2" clears the buffer and appends these characters.
+ * A call that throws must change nothing: the digest stays, and a twin, on which such calls are not made, answers
+ * every call like the object, also those of {@link Twins} behind the run.
  */
 final class Runs {
     private static int wrong = 0;
@@ -15,16 +17,22 @@ final class Runs {
 
     static void check(String title, String run) {
         LaunchCountdown x = new LaunchCountdown();
+        LaunchCountdown twin = new LaunchCountdown();
+        boolean refused = false;
         for (String line : run.split("\n")) {
             if (line.trim().startsWith("text ")) {
                 type(title, x, line.trim().substring(5));
+                type(title, twin, line.trim().substring(5));
                 continue;
             }
             for (String call : line.split(";")) {
                 if (!call.isBlank()) {
-                    checkCall(title, x, call.trim());
+                    refused |= checkRepeated(title, x, twin, call.trim());
                 }
             }
+        }
+        if (refused) {
+            Twins.compare(title, x, twin);
         }
     }
 
@@ -45,7 +53,7 @@ final class Runs {
     }
 
     /** The answer as a text; for an exception "throws " and its simple name. */
-    static String answer(Object x, String name, Object[] arguments) {
+    static String answer(Object x, String name, Object... arguments) {
         for (Method method : x.getClass().getDeclaredMethods()) {
             if (method.getName().equals(name) && method.getParameterCount() == arguments.length) {
                 return answer(x, method, arguments);
@@ -71,24 +79,40 @@ final class Runs {
         }
     }
 
-    private static void checkCall(String title, LaunchCountdown x, String call) {
+    /** Tells whether the call was refused. */
+    private static boolean checkRepeated(String title, LaunchCountdown x, LaunchCountdown twin, String text) {
+        int star = text.indexOf('*');
+        int times = star < 0 ? 1 : Integer.parseInt(text.substring(0, star).trim());
+        String call = text.substring(star + 1).trim();
+        boolean refused = false;
+        for (int i = 0; i < times; i++) {
+            refused |= checkCall(title, x, twin, call);
+        }
+        return refused;
+    }
+
+    private static boolean checkCall(String title, LaunchCountdown x, LaunchCountdown twin, String call) {
         int open = call.indexOf('(');
         int close = call.indexOf(')');
         int equals = call.indexOf('=');
         if (open < 0 || close < open || equals < close) {
             throw new IllegalArgumentException("not a call with its answer: " + call);
         }
+        String name = call.substring(0, open);
         String want = call.substring(equals + 1).trim();
         Object[] arguments = arguments(call.substring(open + 1, close));
         long before = x.digest();
-        String got = answer(x, call.substring(0, open), arguments);
+        String got = answer(x, name, arguments);
         due(title + ": " + call, got, want);
         if (got.startsWith("throws")) {
             due(title + ": " + call + ", the digest behind it", x.digest(), before);
+            return true;
         }
+        due(title + ": " + call + ", on the twin", answer(twin, name, arguments), got);
+        return false;
     }
 
-    private static Object[] arguments(String list) {
+    static Object[] arguments(String list) {
         if (list.isBlank()) {
             return new Object[0];
         }

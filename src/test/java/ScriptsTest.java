@@ -20,8 +20,8 @@ public final class ScriptsTest {
             Runs.due("Promise 16: append " + length, x.append('s'), length);
         }
         long digest = x.digest();
-        Runs.due("Promise 16: full", Runs.answer(x, "append", new Object[] {115}), "throws IllegalStateException");
-        Runs.due("Promise 16: full and wrong", Runs.answer(x, "append", new Object[] {32}),
+        Runs.due("Promise 16: full", Runs.answer(x, "append", 115), "throws IllegalStateException");
+        Runs.due("Promise 16: full and wrong", Runs.answer(x, "append", 32),
                 "throws IllegalArgumentException");
         Runs.due("Promise 16: nothing changed", x.digest(), digest);
         Runs.due("Promise 16: cleared", x.clearBuffer(), 60);
