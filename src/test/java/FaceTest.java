@@ -45,6 +45,9 @@ public final class FaceTest {
         double holdShare()
         long digest()
         """;
+    private static final int MOST_CLASSES = 12;
+    private static final int MOST_FIELDS = 20;
+    private static final int MOST_PARAMETERS = 7;
     private static final String[] FORBIDDEN = {"->", "::", "catch", "finally", "synchronized", "assert", "Exact",
         "System.out", "hashCode", "package "};
 
@@ -52,6 +55,7 @@ public final class FaceTest {
         classes();
         methods();
         fields();
+        sizes();
         source();
         Runs.end();
     }
@@ -106,7 +110,29 @@ public final class FaceTest {
             boolean open = Modifier.isPublic(modifiers) && Modifier.isStatic(modifiers) && Modifier.isFinal(modifiers);
             boolean right = field.getName().equals("NONE") ? open : Modifier.isPrivate(modifiers);
             Runs.due("the field " + field.getName(), right, true);
-            Runs.due("no static state: " + field.getName(), !Modifier.isStatic(modifiers) || Modifier.isFinal(modifiers), true);
+        }
+    }
+
+    /** LANGUAGE.md, rules 5 and 11, for the class and all classes inside it. */
+    private static void sizes() {
+        Class<?>[] inside = LaunchCountdown.class.getDeclaredClasses();
+        Runs.due("at most some twelve classes", inside.length < MOST_CLASSES, true);
+        size(LaunchCountdown.class);
+        for (Class<?> one : inside) {
+            size(one);
+        }
+    }
+
+    private static void size(Class<?> one) {
+        int fields = 0;
+        for (Field field : one.getDeclaredFields()) {
+            boolean isStatic = Modifier.isStatic(field.getModifiers());
+            fields += isStatic ? 0 : 1;
+            Runs.due(one + " has no static state", !isStatic || Modifier.isFinal(field.getModifiers()), true);
+        }
+        Runs.due(one + " has at most some twenty fields", fields <= MOST_FIELDS, true);
+        for (Method method : one.getDeclaredMethods()) {
+            Runs.due(method + " takes at most seven", method.getParameterCount() <= MOST_PARAMETERS, true);
         }
     }
 
